@@ -86,6 +86,7 @@ public final class PromiseTests {
         mixOf();
         together();
         alike();
+        allBland();
         shelf();
         waiting();
         count();
@@ -836,6 +837,48 @@ public final class PromiseTests {
         }
     }
 
+    /** With eight rules that say each something new every mix is bland; with seven one in three is. */
+    private static void allBland() {
+        promise = 23;
+        SpiceThrees x = new SpiceThrees();
+        x.jar(6560);
+        int unit = 1;
+        for (int spice = 0; spice < 8; spice++) {
+            due("rule", x.rule(unit + (spice == 7 ? 0 : 2 * 3 * unit)), spice + 1);
+            unit *= 3;
+        }
+        due("count(3)", x.count(3), 6561);
+        due("count(4)", x.count(4), 1);
+        for (int mix = 0; mix < 6561; mix += 7) {
+            due("alike(" + mix + ", 5, true)", x.alike(mix, 5, true), 1);
+            due("alike(" + mix + ", 5, false)", x.alike(mix, 5, false), 1);
+        }
+        due("jarOf(0, 5)", x.jarOf(0, 5), 0);
+        due("jarOf(0, 6)", x.jarOf(0, 6), 0);
+        due("mixOf(6559, 4)", x.mixOf(6559, 4), 0);
+        due("drop(7)", x.drop(7), 7);
+        due("count(3)", x.count(3), 2187);
+        due("count(4)", x.count(4), 3);
+        for (int mix = 0; mix < 6561; mix += 7) {
+            int same = sumOfUnits(mix) % 3 == 1 ? 1 : 0;
+            due("alike(" + mix + ", 9, true)", x.alike(mix, 9, true), same);
+            due("alike(" + mix + ", 9, false)", x.alike(mix, 9, false), same);
+        }
+        due("jarOf(0, 3)", x.jarOf(0, 3), 1);
+        due("jarOf(0, 5)", x.jarOf(0, 5), 1);
+        x.price(0, 9);
+        due("jarOf(0, 5)", x.jarOf(0, 5), 3);
+        due("mixOf(2, 4), of two units of b and one of d the cheaper", x.mixOf(2, 4), 6);
+    }
+
+    private static int sumOfUnits(int mix) {
+        int units = 0;
+        for (int rest = mix; rest > 0; rest /= 3) {
+            units += rest % 3;
+        }
+        return units;
+    }
+
     private static void shelf() {
         promise = 24;
         SpiceThrees x = new SpiceThrees();
@@ -967,6 +1010,15 @@ public final class PromiseTests {
         due("fewest(9 + 3, 0), bland", x.fewest(12, 0), 0);
         due("fewest(9 + 3, 1), bland", x.fewest(12, 1), 0);
         due("fewest(9 + 4, 0)", x.fewest(13, 0), 1);
+        SpiceThrees y = new SpiceThrees();
+        int[] jars = {1, 1, 3, 3, 9, 9, 27, 27, 81, 243, 729, 2187};
+        for (int jar : jars) {
+            y.jar(jar);
+        }
+        due("fewest of all twelve, 0", y.fewest(80 + 3240, 0), 12);
+        due("fewest of all twelve, 1", y.fewest(80 + 3240, 1), 4095);
+        due("fewest of eleven, 0", y.fewest(80 + 3240 - 81, 0), 11);
+        due("fewest of eleven, 1", y.fewest(80 + 3240 - 81, 1), 4095 - 256);
     }
 
     private static void makes() {

@@ -87,12 +87,14 @@ public final class SpiceThrees {
 
     public int rule(int mix) {
         history.prepare(shop);
-        return ended(acts.makeBland(mix));
+        int answer = acts.makeBland(mix);
+        return ended(answer < 0 ? answer : strength());
     }
 
     public int drop(int rule) {
         history.prepare(shop);
-        return ended(acts.dropRule(rule));
+        int answer = acts.dropRule(rule);
+        return ended(answer < 0 ? answer : strength());
     }
 
     public int price(int spice, int price) {
@@ -240,7 +242,7 @@ public final class SpiceThrees {
         if (!all) {
             return tasteOf(one) == tasteOf(other) ? 1 : 0;
         }
-        tastes.learn(shop.rules, shop.ruled);
+        tastes.learn(shop);
         return tastes.someBlandLeads(one, other) ? 1 : 0;
     }
 
@@ -248,6 +250,7 @@ public final class SpiceThrees {
         if (rank < 0 || what < 0 || what > 3) {
             return BAD_VALUE;
         }
+        tastes.learn(shop);
         int taste = tasteOfShelf(rank);
         if (taste < 0) {
             return NONE;
@@ -335,9 +338,9 @@ public final class SpiceThrees {
         if (!isMix(mix) || what < 0 || what > 1) {
             return BAD_VALUE;
         }
-        int taste = tasteOf(mix);
+        tastes.learn(shop);
         choices.spread(tastes, shop);
-        int set = choices.smallestLike(taste);
+        int set = choices.smallestLike(tastes.leastLike(mix));
         if (set < 0) {
             return NONE;
         }
@@ -345,13 +348,13 @@ public final class SpiceThrees {
     }
 
     public int makes() {
-        tastes.learn(shop.rules, shop.ruled);
+        tastes.learn(shop);
         choices.spread(tastes, shop);
         return choices.differentTastes();
     }
 
     public int needless() {
-        tastes.learn(shop.rules, shop.ruled);
+        tastes.learn(shop);
         return tastes.firstNeedless();
     }
 
@@ -370,24 +373,37 @@ public final class SpiceThrees {
     // ---- by the rules and prices as they are now
 
     private int strength() {
-        tastes.learn(shop.rules, shop.ruled);
+        tastes.learn(shop);
         return tastes.strength;
     }
 
     private int tasteOf(int mix) {
-        tastes.learn(shop.rules, shop.ruled);
+        tastes.learn(shop);
         return tastes.leastLike(mix);
     }
 
     private int cheapestLike(int mix) {
-        tastes.learn(shop.rules, shop.ruled);
+        tastes.learn(shop);
         return tastes.cheapestLike(mix, shop.prices);
     }
+
+    private int shelves() {
+        tastes.learn(shop);
+        int found = 0;
+        int taste = nextShelf(-1);
+        for (int jar = 0; jar < shop.jars && taste >= 0; jar++) {
+            found++;
+            taste = nextShelf(taste);
+        }
+        return found;
+    }
+
+    // ---- jars and shelves, by the rules that are learned already
 
     private int jarsLike(int taste) {
         int found = 0;
         for (int place = 0; place < shop.jars; place++) {
-            if (tasteOf(shop.mixes[place]) == taste) {
+            if (tastes.leastLike(shop.mixes[place]) == taste) {
                 found++;
             }
         }
@@ -395,7 +411,7 @@ public final class SpiceThrees {
     }
 
     private int lowestJarLike(int taste) {
-        int place = acts.firstLike(taste);
+        int place = tastes.firstJarLike(taste, shop);
         return place < 0 ? NONE : shop.numbers[place];
     }
 
@@ -405,22 +421,12 @@ public final class SpiceThrees {
         for (int place = 0; place < shop.jars; place++) {
             int cost = costOf(shop.mixes[place], shop.prices);
             boolean cheaper = best == NONE || cost < least;
-            if (cheaper && tasteOf(shop.mixes[place]) == taste) {
+            if (cheaper && tastes.leastLike(shop.mixes[place]) == taste) {
                 best = shop.numbers[place];
                 least = cost;
             }
         }
         return best;
-    }
-
-    private int shelves() {
-        int found = 0;
-        int taste = nextShelf(-1);
-        for (int jar = 0; jar < shop.jars && taste >= 0; jar++) {
-            found++;
-            taste = nextShelf(taste);
-        }
-        return found;
     }
 
     /** The taste of a shelf, or NONE. */
@@ -439,7 +445,7 @@ public final class SpiceThrees {
     private int nextShelf(int above) {
         int next = NONE;
         for (int place = 0; place < shop.jars; place++) {
-            int taste = tasteOf(shop.mixes[place]);
+            int taste = tastes.leastLike(shop.mixes[place]);
             if (taste > above && (next == NONE || taste < next)) {
                 next = taste;
             }
@@ -522,22 +528,22 @@ public final class SpiceThrees {
             this.mixes = mixes;
         }
 
-        void learn(int[] newRules, int newRuled) {
-            if (isLearned(newRules, newRuled)) {
+        void learn(Shop shop) {
+            if (isLearned(shop)) {
                 return;
             }
-            System.arraycopy(newRules, 0, rules, 0, newRuled);
-            ruled = newRuled;
+            ruled = shop.ruled;
+            System.arraycopy(shop.rules, 0, rules, 0, ruled);
             strength = findLeads(leads, -1);
             listed = 0;
         }
 
-        private boolean isLearned(int[] newRules, int newRuled) {
-            if (newRuled != ruled) {
+        private boolean isLearned(Shop shop) {
+            if (shop.ruled != ruled) {
                 return false;
             }
             for (int rule = 0; rule < ruled; rule++) {
-                if (newRules[rule] != rules[rule]) {
+                if (shop.rules[rule] != rules[rule]) {
                     return false;
                 }
             }
@@ -549,23 +555,23 @@ public final class SpiceThrees {
             Arrays.fill(found, 0);
             int size = 0;
             for (int rule = 0; rule < ruled; rule++) {
-                if (rule != leftOut && addLead(found, rules[rule])) {
+                int rest = rule == leftOut ? 0 : reduced(found, rules[rule]);
+                if (rest != 0) {
+                    int spice = highestSpice(rest);
+                    boolean once = rest / POWERS[spice] == 1;
+                    found[spice] = once ? rest : mixes.twice(rest);
                     size++;
                 }
             }
             return size;
         }
 
-        private boolean addLead(int[] found, int mix) {
-            int rest = reduced(found, mix);
-            for (int spice = SPICES - 1; spice >= 0; spice--) {
-                int units = rest / POWERS[spice] % 3;
-                if (units != 0) {
-                    found[spice] = units == 1 ? rest : mixes.twice(rest);
-                    return true;
-                }
+        private static int highestSpice(int mix) {
+            int spice = SPICES - 1;
+            while (spice > 0 && mix < POWERS[spice]) {
+                spice--;
             }
-            return false;
+            return spice;
         }
 
         /**
@@ -575,10 +581,12 @@ public final class SpiceThrees {
         private int reduced(int[] found, int mix) {
             int rest = mix;
             for (int spice = SPICES - 1; spice >= 0; spice--) {
-                int units = rest / POWERS[spice] % 3;
-                if (units != 0 && found[spice] != 0) {
-                    int lead = found[spice];
-                    rest = mixes.join(rest, units == 1 ? mixes.twice(lead) : lead);
+                int units = found[spice] == 0 ? 0 : rest / POWERS[spice] % 3;
+                if (units > 0) {
+                    rest = mixes.join(rest, found[spice]);
+                }
+                if (units == 1) {
+                    rest = mixes.join(rest, found[spice]);
                 }
             }
             return rest;
@@ -586,6 +594,16 @@ public final class SpiceThrees {
 
         int leastLike(int mix) {
             return reduced(leads, mix);
+        }
+
+        /** The place of the jar with the lowest number of a taste, or NONE. */
+        int firstJarLike(int taste, Shop shop) {
+            for (int place = 0; place < shop.jars; place++) {
+                if (leastLike(shop.mixes[place]) == taste) {
+                    return place;
+                }
+            }
+            return NONE;
         }
 
         /** Whether one and some bland mix together are other, by going through all bland mixes. */
@@ -870,6 +888,7 @@ public final class SpiceThrees {
             return units;
         }
 
+        /** Answers how many rules there are then. */
         int makeBland(int mix) {
             if (!isMix(mix)) {
                 return BAD_VALUE;
@@ -879,20 +898,16 @@ public final class SpiceThrees {
             }
             shop.rules[shop.ruled] = mix;
             shop.ruled++;
-            return strengthNow();
+            return shop.ruled;
         }
 
+        /** Answers how many rules there are then. */
         int dropRule(int rule) {
             if (rule < 0 || rule >= shop.ruled) {
                 return UNKNOWN;
             }
             shop.removeRule(rule);
-            return strengthNow();
-        }
-
-        private int strengthNow() {
-            tastes.learn(shop.rules, shop.ruled);
-            return tastes.strength;
+            return shop.ruled;
         }
 
         int setPrice(int spice, int price) {
@@ -927,24 +942,13 @@ public final class SpiceThrees {
                 return NONE;
             }
             int wanted = shop.removeFirstWant();
-            tastes.learn(shop.rules, shop.ruled);
-            int place = firstLike(tastes.leastLike(wanted));
+            tastes.learn(shop);
+            int place = tastes.firstJarLike(tastes.leastLike(wanted), shop);
             if (place < 0) {
                 shop.accounts[LET_GO]++;
                 return 0;
             }
             return sell(place);
-        }
-
-        /** The place of the jar with the lowest number of a taste, or NONE. */
-        int firstLike(int taste) {
-            tastes.learn(shop.rules, shop.ruled);
-            for (int place = 0; place < shop.jars; place++) {
-                if (tastes.leastLike(shop.mixes[place]) == taste) {
-                    return place;
-                }
-            }
-            return NONE;
         }
 
         private int sell(int place) {
