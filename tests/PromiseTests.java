@@ -1042,6 +1042,10 @@ public final class PromiseTests {
             x.jar(mix);
         }
         due("makes()", x.makes(), 3 * 2 * 32);
+        SpiceThrees y = new SpiceThrees();
+        y.jar(6560);
+        y.jar(6559);
+        due("makes() of the greatest tastes", y.makes(), 4);
     }
 
     private static void needless() {
