@@ -1,4 +1,7 @@
-/** For each promise of the document: ordinary inputs, its edges, and wrong inputs. */
+/**
+ * For each promise of the document: ordinary inputs, its edges, and wrong inputs.
+ * No object is asked more than 512 times, as nothing is promised behind that.
+ */
 public final class PromiseTests {
     private static final int UNKNOWN = -1;
     private static final int BAD_VALUE = -2;
@@ -44,13 +47,17 @@ public final class PromiseTests {
         for (int what = 0; what <= 15; what++) {
             all.append(x.count(what)).append(' ');
         }
-        for (int rank = 0; rank < 12; rank++) {
+        for (int rank = 0; x.ranked(rank) >= 0; rank++) {
             int number = x.ranked(rank);
             all.append(number).append(':').append(x.jarOf(number, 0)).append(' ');
         }
-        for (int i = 0; i < 8; i++) {
-            all.append(x.ruleOf(i)).append(',').append(x.waiting(i)).append(' ');
+        for (int rule = 0; x.ruleOf(rule) >= 0; rule++) {
+            all.append(x.ruleOf(rule)).append(',');
         }
+        for (int rank = 0; x.waiting(rank) >= 0; rank++) {
+            all.append(' ').append(x.waiting(rank));
+        }
+        all.append("; ");
         for (int unit = 1; unit < 6561; unit *= 3) {
             all.append(x.mixOf(unit, 1)).append(' ');
         }
@@ -545,19 +552,19 @@ public final class PromiseTests {
     private static void undo() {
         promise = 15;
         SpiceThrees x = new SpiceThrees();
-        String[] states = new String[8];
-        for (int i = 0; i < 8; i++) {
+        String[] states = new String[6];
+        for (int i = 0; i < 6; i++) {
             states[i] = told(x);
             x.jar(i + 1);
             due("count(16)", x.count(16), Math.min(i + 1, 4));
         }
-        for (int i = 7; i >= 4; i--) {
-            due("undo()", x.undo(), i - 4);
+        for (int i = 5; i >= 2; i--) {
+            due("undo()", x.undo(), i - 2);
             due("the state before jar " + i, told(x).equals(states[i]) ? 1 : 0, 1);
         }
         due("undo() without a state", x.undo(), NONE);
-        due("the state before jar 4", told(x).equals(states[4]) ? 1 : 0, 1);
-        due("jar(5)", x.jar(5), 4);
+        due("the state before jar 2", told(x).equals(states[2]) ? 1 : 0, 1);
+        due("jar(5)", x.jar(5), 2);
         due("undo()", x.undo(), 0);
         write(x, "jar");
         due("the text is no part of a state", x.count(17), 3);
@@ -794,6 +801,7 @@ public final class PromiseTests {
         due("together(6560, 6560)", x.together(6560, 6560), 3280);
         due("together(6560, 3280)", x.together(6560, 3280), 0);
         for (int one = 0; one < 6561; one += 13) {
+            x = new SpiceThrees();
             for (int other = 0; other < 6561; other += 17) {
                 due("together(" + one + ", " + other + ")", x.together(one, other), sum(one, other));
             }
@@ -849,7 +857,7 @@ public final class PromiseTests {
         }
         due("count(3)", x.count(3), 6561);
         due("count(4)", x.count(4), 1);
-        for (int mix = 0; mix < 6561; mix += 7) {
+        for (int mix = 0; mix < 6561; mix += 61) {
             due("alike(" + mix + ", 5, true)", x.alike(mix, 5, true), 1);
             due("alike(" + mix + ", 5, false)", x.alike(mix, 5, false), 1);
         }
@@ -859,7 +867,7 @@ public final class PromiseTests {
         due("drop(7)", x.drop(7), 7);
         due("count(3)", x.count(3), 2187);
         due("count(4)", x.count(4), 3);
-        for (int mix = 0; mix < 6561; mix += 7) {
+        for (int mix = 0; mix < 6561; mix += 61) {
             int same = sumOfUnits(mix) % 3 == 1 ? 1 : 0;
             due("alike(" + mix + ", 9, true)", x.alike(mix, 9, true), same);
             due("alike(" + mix + ", 9, false)", x.alike(mix, 9, false), same);
