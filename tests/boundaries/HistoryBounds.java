@@ -12,6 +12,13 @@ final class HistoryBounds {
 
     private static final String[] ACTS = {"jar", "pour", "more", "throwAway", "rule", "drop", "price", "want", "serve", "doAll", "restore"};
 
+    /** All calls whose answers depend on the rules. */
+    private static final Bounds.Call[] BY_RULES = {x -> x.jarOf(0, 3), x -> x.jarOf(0, 4), x -> x.jarOf(1, 5), x -> x.jarOf(1, 6),
+        x -> x.mixOf(1, 2), x -> x.mixOf(3, 3), x -> x.mixOf(9, 4), x -> x.mixOf(3, 6), x -> x.alike(1, 0, true), x -> x.alike(1, 0, false),
+        x -> x.alike(0, 3, true), x -> x.alike(0, 3, false), x -> x.shelf(0, 0), x -> x.shelf(0, 1), x -> x.shelf(1, 2), x -> x.shelf(0, 3),
+        x -> x.count(2), x -> x.count(3), x -> x.count(4), x -> x.count(5), x -> x.fewest(1, 0), x -> x.fewest(12, 1), SpiceThrees::makes,
+        SpiceThrees::needless, x -> x.ifPoured(0, 1), x -> x.rule(0), x -> x.drop(0), SpiceThrees::serve};
+
     private HistoryBounds() {
     }
 
@@ -24,6 +31,7 @@ final class HistoryBounds {
         oneSnapshot();
         emptySnapshot();
         whatAStateIs();
+        rulesOfAState();
         orderOfErrors();
         noneIsNoError();
         nothingIsChanged();
@@ -244,6 +252,61 @@ final class HistoryBounds {
         Bounds.due("count(17), the text is no part of it", x.count(17), 4);
         Bounds.due("restore(), nor is the snapshot", x.restore(), 3);
         Bounds.same("the state", Bounds.stateTold(x), kept);
+    }
+
+    /** Terms: "A state is everything": also what follows from its rules, which orders, undo and restore change at once. */
+    private static void rulesOfAState() {
+        Bounds.terms("A state is everything");
+        String[] rules = {"", "a", "b", "c", "ab", "ba", "ac", "bc", "abc"};
+        for (String from : rules) {
+            for (String to : rules) {
+                for (int call = 0; call < BY_RULES.length; call++) {
+                    sameByRules(from, to, call);
+                }
+            }
+        }
+    }
+
+    private static void sameByRules(String from, String to, int call) {
+        long due = BY_RULES[call].on(Bounds.made(x -> shopWith(x, to)));
+        String told = "call " + call + " of what depends on rules, " + from + " and then " + to;
+        SpiceThrees x = Bounds.made(y -> shopWith(y, from));
+        change(x, from, to);
+        Bounds.due(told + ", by orders", BY_RULES[call].on(x), due);
+        SpiceThrees y = Bounds.made(z -> shopWith(z, to));
+        change(y, to, from);
+        y.undo();
+        Bounds.due(told + ", by undo()", BY_RULES[call].on(y), due);
+        SpiceThrees z = Bounds.made(w -> shopWith(w, to));
+        z.keep();
+        change(z, to, from);
+        z.restore();
+        Bounds.due(told + ", by restore()", BY_RULES[call].on(z), due);
+    }
+
+    /** The rules are told by letters; what follows from them has been asked for. */
+    private static void shopWith(SpiceThrees x, String rules) {
+        Bounds.jars(1, 3, 9).on(x);
+        // served with the jar 1, the jar 2 or none, as c, b or neither is bland
+        x.want(3 + 9);
+        for (char letter : rules.toCharArray()) {
+            x.rule(letter == 'a' ? 1 : letter == 'b' ? 3 : 9);
+        }
+        x.alike(0, 1, true);
+        x.jarOf(2, 5);
+    }
+
+    /** By one act. */
+    private static void change(SpiceThrees x, String from, String to) {
+        StringBuilder orders = new StringBuilder("more=0;more=0");
+        for (int rule = 0; rule < from.length(); rule++) {
+            orders.append(";drop=0");
+        }
+        for (char letter : to.toCharArray()) {
+            orders.append(";rule=").append(letter);
+        }
+        Bounds.write(x, orders.toString());
+        x.doAll();
     }
 
     /** Terms: "Where several errors can apply, the order of the @return line is the order of the checks." */

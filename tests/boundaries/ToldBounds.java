@@ -365,6 +365,7 @@ final class ToldBounds {
             Bounds.due("alike(6560, 6557, " + all + ")", x.alike(6560, 6557, all), 0);
             x.drop(0);
             Bounds.due("alike(6560, 6559, " + all + ")", x.alike(6560, 6559, all), 0);
+            Bounds.due("alike(6559, 6560, " + all + ")", x.alike(6559, 6560, all), 0);
             x.undo();
             Bounds.due("alike(6560, 6559, " + all + ")", x.alike(6560, 6559, all), 1);
         }
