@@ -518,9 +518,8 @@ public final class SpiceThrees {
         /** By spice: a bland mix with one unit of it and no spice above it; 0 for none. */
         private final int[] leads = new int[SPICES];
         private final int[] trial = new int[SPICES];
-        private final short[] bland = new short[MIXES];
-        /** How many bland mixes are listed; 0 while they are not listed for these rules. */
-        private int listed = 0;
+        /** The leads without gaps, of which all bland mixes are made. */
+        private final int[] parts = new int[SPICES];
         private final int[] lowCosts = new int[HALF];
         private final int[] highCosts = new int[HALF];
 
@@ -535,7 +534,7 @@ public final class SpiceThrees {
             ruled = shop.ruled;
             System.arraycopy(shop.rules, 0, rules, 0, ruled);
             strength = findLeads(leads, -1);
-            listed = 0;
+            collectParts();
         }
 
         private boolean isLearned(Shop shop) {
@@ -574,6 +573,16 @@ public final class SpiceThrees {
             return spice;
         }
 
+        private void collectParts() {
+            int size = 0;
+            for (int spice = 0; spice < SPICES; spice++) {
+                if (leads[spice] != 0) {
+                    parts[size] = leads[spice];
+                    size++;
+                }
+            }
+        }
+
         /**
          * Takes away every spice that leads, the highest first. What is left is the least number
          * of its taste: leads below a spice can't change the units of that spice any more.
@@ -608,23 +617,34 @@ public final class SpiceThrees {
 
         /** Whether one and some bland mix together are other, by going through all bland mixes. */
         boolean someBlandLeads(int one, int other) {
-            listBland();
-            int needed = mixes.join(other, mixes.twice(one));
-            for (int place = 0; place < listed; place++) {
-                if (bland[place] == needed) {
-                    return true;
-                }
+            int like = one;
+            for (int step = 1; step < POWERS[strength] && like != other; step++) {
+                like = nextLike(like, step);
             }
-            return false;
+            return like == other;
+        }
+
+        /**
+         * Steps from mix to mix of a taste, so that each of them comes once. A part is taken once
+         * more only as those before it have gone round, so all sums with them come up in between.
+         */
+        private int nextLike(int mix, int step) {
+            int part = 0;
+            int rest = step;
+            while (part < SPICES - 1 && rest % 3 == 0) {
+                rest = rest / 3;
+                part++;
+            }
+            return mixes.join(mix, parts[part]);
         }
 
         int cheapestLike(int mix, int[] prices) {
-            listBland();
             fillCosts(prices);
             int best = mix;
             int least = costOf(mix, prices);
-            for (int place = 0; place < listed; place++) {
-                int like = mixes.join(mix, bland[place]);
+            int like = mix;
+            for (int step = 1; step < POWERS[strength]; step++) {
+                like = nextLike(like, step);
                 int cost = lowCosts[like % HALF] + highCosts[like / HALF];
                 if (cost < least || cost == least && like < best) {
                     best = like;
@@ -639,30 +659,6 @@ public final class SpiceThrees {
                 lowCosts[half] = costOf(half, prices);
                 highCosts[half] = costOf(half * HALF, prices);
             }
-        }
-
-        private void listBland() {
-            if (listed > 0) {
-                return;
-            }
-            bland[0] = 0;
-            listed = 1;
-            for (int spice = 0; spice < SPICES; spice++) {
-                if (leads[spice] != 0) {
-                    listWithLead(leads[spice]);
-                }
-            }
-        }
-
-        /** Each of at most eight leads makes the list three times as long: 6561 at most. */
-        private void listWithLead(int lead) {
-            int size = listed;
-            for (int place = 0; place < size; place++) {
-                int once = mixes.join(bland[place], lead);
-                bland[size + place] = (short) once;
-                bland[2 * size + place] = (short) mixes.join(once, lead);
-            }
-            listed = 3 * size;
         }
 
         /** The lowest rule without which the rules are as strong, or NONE. */
